@@ -171,5 +171,17 @@ public final class PlansTest {
         DUE.is("all(1): 25", x.all(1), 25);
         Due.law(x, "d=10?99;0");
         DUE.is("all(1): BOARDS GIVE behind the wants", x.all(1), -2);
+        mostThatCanBeNeeded();
+    }
+
+    private static void mostThatCanBeNeeded() {
+        WinterShed x = new WinterShed();
+        x.farm(0);
+        x.want(0, 1324);
+        x.mend(0, 6, 999);
+        Due.law(x, "-75");
+        DUE.is("all(1): 13 times 75, and 24", x.all(1), 999);
+        x.want(0, 1);
+        DUE.is("all(1): an hour more is too many", x.all(1), -2);
     }
 }
