@@ -14,13 +14,14 @@ final class Edges {
     static final int BAD = -1, NOT = -2, FULL = -3, STATE = -5, MISSING = -11, OTHER = -12, PLACE = -13, BELOW = -14;
     static final int VOID = -2000000000;
     static final long NONE = Long.MIN_VALUE;
-    static final int TERMS = 0;
+    /** Parts of the document that are no promises. */
+    static final int INTRODUCTION = -1, TERMS = 0;
 
     interface Edge {
         void hold(WinterShed x);
     }
 
-    /** The words of a part of the document (0: the terms; else a promise), and which of them are quoted. */
+    /** The words of a part of the document, and which of them are quoted. */
     private static final class Part {
         final String words;
         final boolean[] quoted;
@@ -46,6 +47,7 @@ final class Edges {
             return;
         }
         String text = Files.readString(path).replace("```text", "").replace("```", "");
+        addPart(INTRODUCTION, between(text, "each day and hour led.", "## The public face"));
         addPart(TERMS, between(text, "## Terms", "## Promise 1:"));
         for (int p = 1; p <= 42; p++) {
             String body = between(text, "## Promise " + p + ":", p < 42 ? "## Promise " + (p + 1) + ":" : "## Not promised");
@@ -63,7 +65,7 @@ final class Edges {
         return start < 0 || end < start ? "" : text.substring(start + from.length(), end);
     }
 
-    /** The tests that come now quote the terms (0) or a promise. */
+    /** The tests that come now quote the introduction, the terms or a promise. */
     void of(int number) {
         part = number;
     }

@@ -6,6 +6,8 @@ final class ShedEdges {
 
     static void hold(Edges edges) {
         e = edges;
+        e.of(Edges.INTRODUCTION);
+        calls();
         e.of(Edges.TERMS);
         e.told("======== 1");
         numbers();
@@ -26,6 +28,17 @@ final class ShedEdges {
         mending();
         e.of(6);
         asking();
+    }
+
+    private static void calls() {
+        e.test("An object is used for at most 512 calls after it has been made;", x -> {
+            for (int i = 1; i <= 510; i++) {
+                e.is(x.mend(0, 5, i), i == 1 ? 40 : i - 1);
+            }
+            e.is(x.of(0, 5), 510);
+            e.is(x.undo(), 39);
+        });
+        e.told("what later calls answer is free.");
     }
 
     private static void numbers() {
