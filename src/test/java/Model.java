@@ -17,7 +17,14 @@ final class Model {
     int grows;
     int leak;
     int now;
-    final String law;
+    String law;
+
+    /** A new shed. */
+    Model() {
+        cold = 40;
+        bears = 200;
+        grows = 1;
+    }
 
     Model(WinterShed x, String law) {
         this.law = law;
